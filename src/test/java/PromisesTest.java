@@ -587,6 +587,12 @@ public final class PromisesTest {
         due(40, "net", 3, NONE);
         due(0, "net", 3, 0);
         due(0, "net", 3, 1);
+        begin("20 net, caught later by one told", "a....", "k40.0");
+        x.cross(0, 0);
+        x.angle(3, 3);
+        due(40, "net", 1, NONE);
+        due(0, "net", 1, 0);
+        due(0, "net", 1, 1);
         begin("20 net, nothing owed", "=", "k40.0");
         due(0, "net", 0, NONE);
         due(0, "net", 0, 0);
