@@ -3,6 +3,8 @@ import java.util.Random;
 /** Runs of calls by a fixed seed, each answer held against PlainNames, with wrong inputs among them. */
 public final class AgainstPlainTest {
     private static final String RIVER_BYTES = "abcdefghijklmnopqrstuvwxyz....~~~==";
+    /** What later calls of an object answer is free, so a run ends well ahead of that. */
+    private static final int MOST_CALLS = 512, MOST_OF_A_STEP = 80;
     private static final int[] ODD_NUMBERS = {-1, -2, 20, 60, 61, 256, Integer.MIN_VALUE, Integer.MAX_VALUE};
 
     private final Random random;
@@ -10,6 +12,7 @@ public final class AgainstPlainTest {
     private final int run;
     private final ThrownNames real = new ThrownNames();
     private final PlainNames plain = new PlainNames();
+    private int calls = 0;
 
     private AgainstPlainTest(int run, Dues dues) {
         this.run = run;
@@ -42,7 +45,7 @@ public final class AgainstPlainTest {
         for (int k = below(17); k > 0; k--) {
             told(busyBridge);
         }
-        for (int k = 0; k < 60; k++) {
+        for (int k = 0; k < 60 && calls + MOST_OF_A_STEP < MOST_CALLS; k++) {
             step(below(34));
         }
         if (run % 4 == 0) {
@@ -168,11 +171,12 @@ public final class AgainstPlainTest {
 
     /** The letter by which somebody is called, more often than by chance. */
     private int likelyLetter() {
-        int called = real.called(below(20), below(8), 1);
+        int called = plain.called(below(20), below(8), 1);
         return called >= 0 && below(3) > 0 ? called : about(26);
     }
 
     private void check(String call, int... a) {
+        calls++;
         dues.due(say(call, a), Calls.of(real, call, a), Calls.of(plain, call, a));
     }
 }

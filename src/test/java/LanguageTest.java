@@ -19,9 +19,12 @@ public final class LanguageTest {
             + "lay4 get3 copy5 write2 count1";
     private static final String LONG_CALLS = "flooded5 digest0";
     private static final String CONSTANTS = "NONE-1 BAD-2 NOT-3 FULL-4";
-    private static final String WRONG_WORDS = "\\b(throw|throws|try|catch|finally|synchronized|assert|Object|HashMap|"
-            + "Map|Set|Random|Thread|hashCode|toString|stream|volatile|native|package|protected|\\w+Exact)\\b|"
-            + "\\bSystem\\.(?!arraycopy)|\\bInteger\\.(?!bitCount)|\\bLong\\.|\\bMath\\.(?!max|min)|->|::";
+    private static final String OVER_NUMBERS = "(?!(compare|max|min|abs|bitCount|floorDiv|floorMod|signum|sum|"
+            + "highestOneBit|lowestOneBit|numberOf\\w+Zeros|rotateLeft|rotateRight|reverse|MAX_VALUE|MIN_VALUE)\\b)";
+    private static final String WRONG_WORDS = "\\b(throw|throws|try|catch|finally|synchronized|assert|Object|Thread|"
+            + "Runtime|Process|hashCode|volatile|native|package|protected|\\w+Exact)\\b|\\bString toString\\(|"
+            + "\\bSystem\\.(?!arraycopy)|\\b(Integer|Long|Math)\\." + OVER_NUMBERS + "|->|::";
+    private static final String IMPORTS = "java\\.util\\.(Arrays|ArrayList|List|Iterator)";
 
     private static final Dues DUES = new Dues();
 
@@ -100,14 +103,15 @@ public final class LanguageTest {
     }
 
     private static void source(String code) {
-        Matcher wrong = Pattern.compile(WRONG_WORDS).matcher(code);
+        Matcher wrong = Pattern.compile(WRONG_WORDS).matcher(code.replaceAll("(case [^>\n]*|default )->", " "));
         while (wrong.find()) {
             alike("a word of the source, " + wrong.group(), "there", "not there");
         }
         Matcher imports = Pattern.compile("import ([^;]*);").matcher(code);
         while (imports.find()) {
-            alike("the import", imports.group(1), "java.util.Arrays");
+            alike("the import " + imports.group(1), imports.group(1).matches(IMPORTS), true);
         }
+        alike("a library by its whole name", Pattern.compile("(?<!import )\\bjava\\.").matcher(code).find(), false);
         int since = 0;
         String[] lines = code.split("\n", -1);
         for (int i = 0; i < lines.length; i++) {

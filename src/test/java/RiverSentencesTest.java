@@ -66,11 +66,11 @@ public final class RiverSentencesTest extends Sentences {
     }
 
     @Says("public static final int NONE = -1, BAD = -2, NOT = -3, FULL = -4;")
-    void p01Constants() {
-        note("NONE", ThrownNames.NONE, -1);
-        note("BAD", ThrownNames.BAD, -2);
-        note("NOT", ThrownNames.NOT, -3);
-        note("FULL", ThrownNames.FULL, -4);
+    void p01Constants() throws ReflectiveOperationException {
+        String[] names = {"NONE", "BAD", "NOT", "FULL"};
+        for (int k = 0; k < names.length; k++) {
+            note(names[k], ThrownNames.class.getField(names[k]).getInt(null), -1 - k);
+        }
     }
 
     @Says("`ThrownNames()`: No CELLS, nobody; all SHEETS are LOST.")

@@ -81,18 +81,18 @@ abstract class Sentences {
     }
 
     private static List<String> wrongOf(Class<? extends Sentences> tests, Method method) {
+        List<String> wrong = new ArrayList<>();
         try {
             Sentences test = tests.getDeclaredConstructor().newInstance();
-            try {
-                method.invoke(test);
-                test.endScene();
-            } catch (InvocationTargetException e) {
-                test.wrong.add("threw " + e.getCause());
-            }
-            return test.wrong;
-        } catch (ReflectiveOperationException e) {
-            throw new IllegalStateException(method.getName(), e);
+            wrong = test.wrong;
+            method.invoke(test);
+            test.endScene();
+        } catch (InvocationTargetException e) {
+            wrong.add("threw " + e.getCause());
+        } catch (ReflectiveOperationException | RuntimeException e) {
+            wrong.add("threw " + e);
         }
+        return wrong;
     }
 
     /** A new object with these texts. */
