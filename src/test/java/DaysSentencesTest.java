@@ -146,6 +146,17 @@ public final class DaysSentencesTest extends Sentences {
         due(99, "called", 4, 1, 2);
     }
 
+    @Says("what it OWES (0, in THE RIVER)")
+    void p14ANameOfTheRiverTypedLaterOwesNothing() {
+        begin("", "a99.0;b98.0");
+        due(99, "called", 0, 0, 2);
+        type(0, "m=n");
+        make("cross", 0, 0);
+        due(0, "called", 0, 0, 2);
+        due(98, "called", 0, 1, 2);
+        due(99, "net", 0, NONE);
+    }
+
     @Says("(of a NAME of THE RIVER: nobody; NONE)")
     void p14NoSpouseByANameOfTheRiver() {
         begin("m=", "a0010;b0000");
@@ -599,6 +610,33 @@ public final class DaysSentencesTest extends Sentences {
         due(2, "returns", 1, 12, 3, 1);
     }
 
+    @Says("each on a DAY no later")
+    void p19TheSecondOnTheDayItself() {
+        begin("m=", "a00.0;b00.0;c00.0");
+        make("cross", 2, 1);
+        make("cross", 2, 2);
+        due(2, "returns", 2, 12, 2, NONE);
+        due(0, "returns", 2, 12, 2, 0);
+        due(2, "returns", 2, 12, 2, 1);
+    }
+
+    @Says("(each later than the one ahead)")
+    void p19TheSecondADayLater() {
+        begin("m=", "a00.0;b00.0;c00.0");
+        make("cross", 1, 2);
+        make("cross", 3, 0);
+        due(2, "returns", 0, 12, 3, NONE);
+        due(0, "returns", 0, 12, 3, 0);
+        due(1, "returns", 0, 12, 3, 1);
+        begin("m=", "a00.0;b00.0;c00.0");
+        make("cross", 3, 1);
+        make("cross", 2, 1);
+        make("cross", 3, 2);
+        due(2, "returns", 2, 1, 3, NONE);
+        due(2, "returns", 2, 1, 3, 0);
+        due(3, "returns", 2, 1, 3, 1);
+    }
+
     @Says("the fewest CROSSINGS more of it (0 to 2;")
     void p19ThreeAreTooMany() {
         begin("m=", "a00.0;b00.0;c00.0");
@@ -674,6 +712,30 @@ public final class DaysSentencesTest extends Sentences {
         due(1, "returns", 0, 0, 3, NONE);
         due(0, "returns", 0, 0, 3, 0);
         due(0, "returns", 0, 0, 2, NONE);
+    }
+
+    @Says("by which it is CALLED so behind that DAY")
+    void p19WhatIsToldForTheNextDay() {
+        begin("m=", "a00.0");
+        make("cross", 1, 0);
+        due(1, "returns", 0, 0, 1, NONE);
+        due(0, "returns", 0, 0, 1, 0);
+        begin("m", "a00.0");
+        make("cross", 1, 0);
+        due(1, "returns", 0, 12, 1, NONE);
+        due(0, "returns", 0, 12, 1, 0);
+        due(NONE, "returns", 0, 25, 1, NONE);
+    }
+
+    @Says("Then CATCHES, as told")
+    void p19CatchesComeBehindIt() {
+        begin("m=", "a00.0");
+        make("cross", 5, 0);
+        make("angle", 0, 0);
+        // what it threw on DAY 0 is SOLD, so that on DAY 5 there is nothing to take
+        due(1, "returns", 0, 12, 5, NONE);
+        due(0, "returns", 0, 12, 5, 0);
+        due(NONE, "returns", 0, 12, 5, 1);
     }
 
     @Says("(0 to 2; whatever room there is for them)")
@@ -789,6 +851,21 @@ public final class DaysSentencesTest extends Sentences {
         due(90, "net", 3, NONE);
         due(0, "net", 3, 0);
         due(0, "net", 3, 1);
+    }
+
+    @Says("by which most OWES is SOLD behind DAY 19")
+    void p20ACatchToldLaterFindsItWhereItDrifts() {
+        begin("a....", "k40.0");
+        make("cross", 0, 0);
+        make("angle", 3, 3);
+        due(40, "net", 1, NONE);
+        due(0, "net", 1, 0);
+        due(0, "net", 1, 1);
+        make("back", 1);
+        make("angle", 3, 2);
+        due(40, "net", 1, NONE);
+        due(0, "net", 1, 0);
+        due(1, "net", 1, 1);
     }
 
     @Says("of like ones the least row (none less than the one ahead)")

@@ -91,6 +91,21 @@ public final class SeenSentencesTest extends Sentences {
         due(1023, "lucky", 0);
     }
 
+    @Says("one that there is not: never")
+    void p21OneWhoIsNotThereIsCalledByNoLetter() {
+        for (int letter = 0; letter < 26; letter++) {
+            begin("m=", "a00.0;b00.0");
+            make("cross", 0, 0);
+            make("seen", 0, 1, letter);
+            due(letter == 1 ? 1023 : 0, "lucky", 0);
+            for (int k = 0; k < 6; k++) {
+                make("undo", 1);
+            }
+            due(0, "lucky", 0);
+            due(0, "never");
+        }
+    }
+
     @Says("SEEN more: how many.")
     void p21TheSameTwice() {
         begin("m=", "a00.0");
@@ -206,6 +221,22 @@ public final class SeenSentencesTest extends Sentences {
         due(1, "never");
     }
 
+    @Says("Then all that is in CELLS drifts")
+    void p23WhereTheBridgeIsNotHeld() {
+        begin("m", "a00.0;b00.0");
+        make("cross", 0, 0);
+        make("cross", 1, 1);
+        make("seen", 1, 1, 1);
+        due(3, "never");
+        make("seen", 0, 0, 12);
+        due(2, "never");
+        begin("m", "a00.0;b00.0");
+        make("cross", 0, 0);
+        make("cross", 0, 1);
+        make("seen", 0, 1, 12);
+        due(1, "never");
+    }
+
     @Says("CROSSINGS each of which")
     void p23ACrossingOfNobody() {
         begin("m=", "a00.0");
@@ -299,6 +330,17 @@ public final class SeenSentencesTest extends Sentences {
         // behind 0 by the second and third: c, c; m, m; b, b
         due(0, "ask", 0);
         due(2, "ask", 2);
+    }
+
+    @Says("Then all that is in CELLS drifts")
+    void p25WhereTheBridgeIsNotHeld() {
+        begin("m", "c00.0;a00.0;b00.0");
+        make("cross", 0, 1);
+        make("cross", 0, 2);
+        make("cross", 1, 0);
+        // behind 0 and ever after: c, c, c; a, m, m; m, b, a
+        due(2, "ask", 0);
+        due(2, "ask", 19);
     }
 
     @Says("of like ones the least")
@@ -445,6 +487,19 @@ public final class SeenSentencesTest extends Sentences {
         due(0, "flooded", 16, 1, 0, 12, 0);
     }
 
+    @Says("Then all that is in CELLS drifts")
+    void p26WhereTheBridgeIsNotHeld() {
+        begin("m", "a00.0;b00.0");
+        make("cross", 0, 0);
+        make("cross", 1, 1);
+        for (int c : new int[] {0, 5, 16}) {
+            due(1, "flooded", c, 1, 0, 12, 0);
+            due(1, "flooded", c, 1, 1, 1, 0);
+            due(1, "flooded", c, 1, 1, 1, 1);
+            due(0, "flooded", c, 1, 1, 0, 0);
+        }
+    }
+
     // ---- 27: crowd
 
     private static int lot(long seed, int m) {
@@ -508,6 +563,15 @@ public final class SeenSentencesTest extends Sentences {
         due(0, "crowd", 1, 0, 2);
         due(2, "called", 0, 2, 1);
         due(1, "count", 5);
+    }
+
+    @Says("Then CATCHES, as told")
+    void p27CatchesComeBehindIt() {
+        begin("m=", "a00.0;b00.0;c00.0");
+        make("angle", 0, 0);
+        due(12, "crowd", 1, 0, 2);
+        due(12, "crowd", 1, 19, 2);
+        due(0, "crowd", 1, 19, 0);
     }
 
     @Says("told behind all others")

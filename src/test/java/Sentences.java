@@ -89,7 +89,7 @@ abstract class Sentences {
             test.endScene();
         } catch (InvocationTargetException e) {
             wrong.add("threw " + e.getCause());
-        } catch (ReflectiveOperationException | RuntimeException e) {
+        } catch (ReflectiveOperationException | RuntimeException | StackOverflowError e) {
             wrong.add("threw " + e);
         }
         return wrong;
@@ -114,7 +114,9 @@ abstract class Sentences {
 
     final void type(int text, String bytes) {
         for (int i = 0; i < bytes.length(); i++) {
-            make("type", text, bytes.charAt(i));
+            kept.add(new Object[] {"type", new int[] {text, bytes.charAt(i)}});
+            calls++;
+            x.type(text, bytes.charAt(i));
         }
     }
 

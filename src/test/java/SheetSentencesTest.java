@@ -763,6 +763,93 @@ public final class SheetSentencesTest extends Sentences {
         digestIsAsAsked();
     }
 
+    @Says("of DAYS 3, 19 called(the DAY, it, 0 to 3)")
+    void p35CalledOnItsDays() {
+        begin("c=", "a10.1;b2000");
+        make("cross", 3, 0);
+        make("cross", 4, 0);
+        make("cross", 19, 1);
+        digestIsAsAsked();
+    }
+
+    @Says("name(9, it, 0 to 2), name(19, it, 0)")
+    void p35NamesOnTheirDays() {
+        begin("b...................", "");
+        make("wear", 10);
+        digestIsAsAsked();
+    }
+
+    @Says("returns(it, 2, 9, NONE and 0)")
+    void p35ReturnsByDay9() {
+        begin("c=", "a00.0");
+        make("cross", 9, 0);
+        make("cross", 10, 0);
+        due(1, "returns", 0, 2, 8, NONE);
+        due(0, "returns", 0, 2, 9, NONE);
+        due(1, "returns", 0, 2, 10, NONE);
+        digestIsAsAsked();
+    }
+
+    @Says("flooded(5, 6, it, 2), above, below")
+    void p35FloodedByDay6() {
+        begin("c=", "a00.0");
+        make("cross", 6, 0);
+        make("cross", 7, 0);
+        due(0, "flooded", 5, 5, 0, 2, 0);
+        due(1, "flooded", 5, 6, 0, 2, 0);
+        due(0, "flooded", 5, 7, 0, 2, 0);
+        digestIsAsAsked();
+    }
+
+    @Says("crowd(7, 19, it)")
+    void p35CrowdByDay19() {
+        begin("c=", EIGHT);
+        digestIsAsAsked();
+        begin("c=", "c00.0;b00.0");
+        due(1, "crowd", 7, 19, NONE);
+        due(2, "crowd", 7, 18, NONE);
+        due(2, "crowd", 6, 19, NONE);
+        digestIsAsAsked();
+    }
+
+    @Says("same(9)")
+    void p35SameOnDay9() {
+        begin("b=", "a00.0;b00.0");
+        make("cross", 9, 0);
+        make("cross", 10, 0);
+        due(0, "same", 8);
+        due(1, "same", 9);
+        due(0, "same", 10);
+        digestIsAsAsked();
+    }
+
+    @Says("net(2, NONE and 0)")
+    void p35NetOnDay2() {
+        for (String river : new String[] {"a.", "a..", "ab.="}) {
+            begin(river, "k40.0");
+            make("cross", 0, 0);
+            digestIsAsAsked();
+        }
+        begin("m=", "a10.0;b90.0");
+        make("cross", 0, 0);
+        make("cross", 3, 1);
+        make("angle", 19, 0);
+        due(1, "net", 2, 0);
+        due(0, "net", 3, 0);
+        digestIsAsAsked();
+    }
+
+    @Says("never(), ask(9)")
+    void p35AskOnDay9() {
+        begin("m=", "a00.0;b00.0");
+        make("cross", 9, 1);
+        make("cross", 10, 1);
+        due(0, "ask", 8);
+        due(1, "ask", 9);
+        due(0, "ask", 10);
+        digestIsAsAsked();
+    }
+
     @Says("count() 0 to 7")
     void p35FindingsAndSheetsAreNotInIt() {
         beginFull();
